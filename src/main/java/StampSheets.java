@@ -1180,7 +1180,7 @@ public final class StampSheets {
         private final boolean[] hangs = new boolean[SETS];
         private final int[] suited = new int[SETS];
         private final int[] table = new int[SETS];
-        private final boolean[] paid = new boolean[SUMS];
+        private final int[] paid = new int[SUMS];
         private final long[] cases = new long[CELLS + 1];
 
         /** Which sets hang together depends on the sheet's form alone. */
@@ -1245,11 +1245,11 @@ public final class StampSheets {
         }
 
         private void markSums(Sheet sheet) {
-            Arrays.fill(paid, false);
+            Arrays.fill(paid, 0);
             for (int set = 1; set <= sheet.on; set++) {
                 int pay = isPiece(sheet, set) ? sheet.paysOf(set) : SUMS;
                 if (pay >= 0 && pay < SUMS) {
-                    paid[pay] = true;
+                    paid[pay] = 1;
                 }
             }
         }
@@ -1257,14 +1257,14 @@ public final class StampSheets {
         private int countSums() {
             int n = 0;
             for (int sum = 0; sum < SUMS; sum++) {
-                n += paid[sum] ? 1 : 0;
+                n += paid[sum];
             }
             return n;
         }
 
         private int leastSumUnpaid() {
             for (int sum = 0; sum < SUMS; sum++) {
-                if (!paid[sum]) {
+                if (paid[sum] == 0) {
                     return sum;
                 }
             }
@@ -1365,6 +1365,7 @@ public final class StampSheets {
             int first = Integer.lowestOneBit(set);
             int others = set ^ first;
             int servable = table[others];
+            // Each step takes the next lesser part of the others, down to none of them.
             for (int more = others; more >= 0; more--) {
                 more &= others;
                 int piece = first | more;
@@ -1506,7 +1507,7 @@ public final class StampSheets {
         }
 
         private static int above(int kind) {
-            return kind >= 0 && kind < ABOVE.length ? ABOVE[kind] : 0;
+            return kind >= 0 && kind < KINDS ? ABOVE[kind] : 0;
         }
 
         private int answer(Sheet sheet, int one, int what) {
@@ -1519,15 +1520,20 @@ public final class StampSheets {
         }
 
         private int bodyFor(int what) {
-            int[] bodies = what == ASK_SIZE ? SIZE_BODIES : MARK_BODIES;
             int one = kind;
-            for (int i = 0; i < KINDS_OF_ONE; i++) {
-                if (one >= 0 && one < bodies.length && bodies[one] != 0) {
-                    return bodies[one];
-                }
+            int told = bodyTold(what, one);
+            for (int i = 1; i < KINDS_OF_ONE && told == 0; i++) {
                 one = above(one);
+                told = bodyTold(what, one);
             }
-            return bodies[0];
+            return told;
+        }
+
+        private static int bodyTold(int what, int kind) {
+            if (kind < 0 || kind >= KINDS) {
+                return 0;
+            }
+            return what == ASK_SIZE ? SIZE_BODIES[kind] : MARK_BODIES[kind];
         }
 
         private int body(int number, int depth) {
