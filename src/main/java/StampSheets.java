@@ -280,6 +280,7 @@ public final class StampSheets {
         if (what < 0 || what > 2) {
             return BAD;
         }
+        finder.weigh(now);
         if (what == 2) {
             return finder.greatestSum(now);
         }
@@ -294,6 +295,7 @@ public final class StampSheets {
         if (now.isServed(customer)) {
             return STATE;
         }
+        finder.weigh(now);
         int piece = finder.bestFor(now, customer);
         if (piece == 0) {
             return NONE;
@@ -308,6 +310,7 @@ public final class StampSheets {
         if (now.isServed(customer)) {
             return STATE;
         }
+        finder.weigh(now);
         return finder.countFor(now, customer);
     }
 
@@ -318,6 +321,7 @@ public final class StampSheets {
         if (now.isServed(customer)) {
             return STATE;
         }
+        finder.weigh(now);
         int piece = finder.cheapestFor(now, customer);
         if (piece == 0) {
             return NONE;
@@ -332,6 +336,7 @@ public final class StampSheets {
         if (k < -2 || k >= now.customers) {
             return BAD;
         }
+        finder.weigh(now);
         int who = finder.mostServed(now);
         if (k == -1) {
             return Integer.bitCount(who);
@@ -430,6 +435,7 @@ public final class StampSheets {
             return BAD;
         }
         trial.become(now);
+        finder.weigh(now);
         long x = seed;
         for (int day = 0; day < n; day++) {
             x = x * 16807 % 2147483647;
@@ -1006,6 +1012,10 @@ public final class StampSheets {
             return (on >> cell & 1) != 0;
         }
 
+        private boolean holds(int set) {
+            return (set & ~on) == 0;
+        }
+
         private boolean isServed(int customer) {
             return pieceOf[customer] != 0;
         }
@@ -1171,13 +1181,21 @@ public final class StampSheets {
         }
     }
 
-    /** What goes through all pieces of a sheet. */
+    /**
+     * What goes through all pieces of a sheet. Sets come from the least on, so that of equal
+     * ones the first found is the least.
+     */
     private static final class Finder {
+        /** A sheet of 5 by 2 has most sets that hang together. */
+        private static final int MOST_HANGING = 275;
         private static final int SUMS = 100;
         /** Of the sets of customers (a bit each of 32) those without customer 0, 1, .. */
         private static final int[] WITHOUT = {0x55555555, 0x33333333, 0x0F0F0F0F, 0x00FF00FF, 0x0000FFFF};
 
         private final boolean[] hangs = new boolean[SETS];
+        private final int[] hanging = new int[MOST_HANGING];
+        private final int[] pays = new int[MOST_HANGING];
+        private int many = 0;
         private final int[] suited = new int[SETS];
         private final int[] table = new int[SETS];
         private final int[] paid = new int[SUMS];
@@ -1186,8 +1204,13 @@ public final class StampSheets {
         /** Which sets hang together depends on the sheet's form alone. */
         private void learn(Sheet sheet) {
             int end = 1 << sheet.cells;
+            many = 0;
             for (int set = 1; set < end && set < SETS; set++) {
                 hangs[set] = Integer.bitCount(set) == 1 || hangsByOneLess(sheet, set);
+                if (hangs[set] && many < MOST_HANGING) {
+                    hanging[many] = set;
+                    many++;
+                }
             }
         }
 
@@ -1202,26 +1225,34 @@ public final class StampSheets {
             return false;
         }
 
-        private boolean isPiece(Sheet sheet, int set) {
-            return set > 0 && set <= sheet.on && set < SETS && (set & ~sheet.on) == 0 && hangs[set];
+        /** Ahead of all that asks what pieces pay: while days go by that does not change. */
+        private void weigh(Sheet sheet) {
+            for (int i = 0; i < many; i++) {
+                pays[i] = sheet.paysOf(hanging[i]);
+            }
         }
 
-        private boolean couldServe(Sheet sheet, int customer, int set) {
-            return isPiece(sheet, set) && sheet.suits(customer, sheet.paysOf(set));
+        private boolean isPiece(Sheet sheet, int set) {
+            return set > 0 && set < SETS && sheet.holds(set) && hangs[set];
+        }
+
+        private boolean couldServe(Sheet sheet, int customer, int i) {
+            return sheet.holds(hanging[i]) && sheet.suits(customer, pays[i]);
         }
 
         private int countAll(Sheet sheet) {
             int n = 0;
-            for (int set = 1; set <= sheet.on; set++) {
-                n += isPiece(sheet, set) ? 1 : 0;
+            for (int i = 0; i < many; i++) {
+                n += sheet.holds(hanging[i]) ? 1 : 0;
             }
             return n;
         }
 
-        private int countOf(Sheet sheet, int many, boolean straight) {
+        private int countOf(Sheet sheet, int stamps, boolean straight) {
             int n = 0;
-            for (int set = 1; set <= sheet.on; set++) {
-                if (Integer.bitCount(set) == many && isPiece(sheet, set)) {
+            for (int i = 0; i < many; i++) {
+                int set = hanging[i];
+                if (Integer.bitCount(set) == stamps && sheet.holds(set)) {
                     n += !straight || isStraight(sheet, set) ? 1 : 0;
                 }
             }
@@ -1246,10 +1277,9 @@ public final class StampSheets {
 
         private void markSums(Sheet sheet) {
             Arrays.fill(paid, 0);
-            for (int set = 1; set <= sheet.on; set++) {
-                int pay = isPiece(sheet, set) ? sheet.paysOf(set) : SUMS;
-                if (pay >= 0 && pay < SUMS) {
-                    paid[pay] = 1;
+            for (int i = 0; i < many; i++) {
+                if (sheet.holds(hanging[i]) && pays[i] >= 0 && pays[i] < SUMS) {
+                    paid[pays[i]] = 1;
                 }
             }
         }
@@ -1273,23 +1303,23 @@ public final class StampSheets {
 
         private int greatestSum(Sheet sheet) {
             int greatest = 0;
-            for (int set = 1; set <= sheet.on; set++) {
-                if (isPiece(sheet, set)) {
-                    greatest = Math.max(greatest, sheet.paysOf(set));
+            for (int i = 0; i < many; i++) {
+                if (sheet.holds(hanging[i])) {
+                    greatest = Math.max(greatest, pays[i]);
                 }
             }
             return greatest;
         }
 
-        /** 0: there is none. Sets come from the least on, so the first of equals stays. */
+        /** 0: there is none. */
         private int bestFor(Sheet sheet, int customer) {
             int best = 0;
             int rank = 0;
-            for (int set = 1; set <= sheet.on; set++) {
-                if (couldServe(sheet, customer, set)) {
-                    int newRank = 16 * sheet.tearsOf(set) + Integer.bitCount(set);
+            for (int i = 0; i < many; i++) {
+                if (couldServe(sheet, customer, i)) {
+                    int newRank = rankOf(sheet, hanging[i]);
                     if (best == 0 || newRank < rank) {
-                        best = set;
+                        best = hanging[i];
                         rank = newRank;
                     }
                 }
@@ -1297,10 +1327,15 @@ public final class StampSheets {
             return best;
         }
 
+        /** By TEARS, then by STAMPS, which are fewer than 16. */
+        private static int rankOf(Sheet sheet, int set) {
+            return 16 * sheet.tearsOf(set) + Integer.bitCount(set);
+        }
+
         private int countFor(Sheet sheet, int customer) {
             int n = 0;
-            for (int set = 1; set <= sheet.on; set++) {
-                n += couldServe(sheet, customer, set) ? 1 : 0;
+            for (int i = 0; i < many; i++) {
+                n += couldServe(sheet, customer, i) ? 1 : 0;
             }
             return n;
         }
@@ -1309,13 +1344,11 @@ public final class StampSheets {
         private int cheapestFor(Sheet sheet, int customer) {
             int cheapest = 0;
             int pay = 0;
-            for (int set = 1; set <= sheet.on; set++) {
-                if (couldServe(sheet, customer, set)) {
-                    int newPay = sheet.paysOf(set);
-                    if (cheapest == 0 || newPay < pay) {
-                        cheapest = set;
-                        pay = newPay;
-                    }
+            for (int i = 0; i < many; i++) {
+                boolean isCheaper = cheapest == 0 || pays[i] < pay;
+                if (isCheaper && couldServe(sheet, customer, i)) {
+                    cheapest = hanging[i];
+                    pay = pays[i];
                 }
             }
             return cheapest;
@@ -1335,8 +1368,11 @@ public final class StampSheets {
         }
 
         private void findSuited(Sheet sheet) {
-            for (int set = 0; set <= sheet.on && set < SETS; set++) {
-                suited[set] = isPiece(sheet, set) ? suitedBy(sheet, sheet.paysOf(set)) : 0;
+            Arrays.fill(suited, 0);
+            for (int i = 0; i < many; i++) {
+                if (sheet.holds(hanging[i])) {
+                    suited[hanging[i]] = suitedBy(sheet, pays[i]);
+                }
             }
         }
 
@@ -1355,7 +1391,7 @@ public final class StampSheets {
         private void findServable(Sheet sheet) {
             table[0] = 1;
             for (int set = 1; set <= sheet.on && set < SETS; set++) {
-                if ((set & ~sheet.on) == 0) {
+                if (sheet.holds(set)) {
                     table[set] = servableBy(set);
                 }
             }
@@ -1437,9 +1473,10 @@ public final class StampSheets {
         private int sideOf(Sheet sheet, int cell, int other) {
             int side = 0;
             int fewest = 0;
-            for (int set = 1; set <= sheet.on; set++) {
+            for (int i = 0; i < many; i++) {
+                int set = hanging[i];
                 boolean parts = (set >> cell & 1) != 0 && (set >> other & 1) == 0;
-                if (parts && isPiece(sheet, set)) {
+                if (parts && sheet.holds(set)) {
                     int tears = sheet.tearsOf(set);
                     if (side == 0 || tears < fewest) {
                         side = set;

@@ -245,6 +245,7 @@ public final class PromisesTest {
         x.serve(0, 1);
         x.spoil(8);
         x.over(1);
+        x.drawn(0, 1, 0);
         due("another", read(x, "w2,1,3;o4;u5;n7,8;"), 2);
         due("all are on it", x.stand(0), 3);
         due("nobody is served", x.stand(1), 0);
