@@ -310,6 +310,7 @@ final class ActEdges extends Edges {
             due("undo()", x.undo(), n - 1);
             due("behind undo() of act " + n, seen(x), before);
         }
+        undoneOneByOne();
         says("The latest ACT is undone: how many can be undone yet. STATE: none.");
         StampSheets x = open(NINE);
         due("none", x.undo(), STATE);
@@ -323,6 +324,34 @@ final class ActEdges extends Edges {
         due("all undone", seen(x), before);
         due("none any more", x.undo(), STATE);
         due("no sheet", new StampSheets().undo(), STATE);
+    }
+
+    /** Customers and cells of the same number: what is undone of the one leaves the other. */
+    private static void undoneOneByOne() {
+        StampSheets x = open("w3,1,4;o1;u2;d3;n1,9;n1,9;n1,9;");
+        x.spoil(1);
+        x.serve(1, 4);
+        x.bringBack(1);
+        due("undo() of bringBack(1)", x.undo(), 2);
+        due("cell 1 is spoilt yet", x.stand(0), 1);
+        due("cell 1 is spoilt yet", x.stand(4), 2);
+        due("customer 1 has cell 2", x.customer(1, 2), 4);
+        due("undo() of serve(1, 4)", x.undo(), 1);
+        due("cell 1 is spoilt yet", x.stand(0), 5);
+        x.serve(0, 1);
+        x.value(0, 7);
+        x.over(9);
+        due("undo() of over(9)", x.undo(), 3);
+        due("OVER", x.stand(3), 4);
+        due("VALUE", x.cell(0, 0), 7);
+        due("undo() of value(0, 7)", x.undo(), 2);
+        due("VALUE", x.cell(0, 0), 1);
+        due("SERVED yet", x.customer(0, 2), 1);
+        due("undo() of serve(0, 1)", x.undo(), 1);
+        due("undo() of spoil(1)", x.undo(), 0);
+        due("all are on it", x.stand(0), 7);
+        due("none is spoilt", x.stand(4), 0);
+        due("nothing was torn", x.stand(2), 0);
     }
 
     /** 24 acts behind one: that one is forgotten; 23 behind it: it is not. */

@@ -322,6 +322,8 @@ final class ForetoldEdges extends Edges {
         thrift("w3,1,0;o2;o1;o2;n2,5;", 1, 2);
         thrift("w3,1,0;o2;o1;o2;n4,5;", 7, 5);
         thrift("w1,1,0;o0;n0,0;", 1, 0);
+        thrift("w5,2,0;" + "o1;".repeat(10) + "n10,10;", 1023, 10);
+        thrift("w5,2,0;" + "o1;".repeat(10) + "n11,99;", NONE, NONE);
         thrift("w1,1,0;o5;n4,4;", NONE, NONE);
         thrift("w1,1,0;o5;n6,6;", NONE, NONE);
     }
@@ -367,6 +369,9 @@ final class ForetoldEdges extends Edges {
         serving("w5,1,0;" + "o1;".repeat(5) + "n1,5;".repeat(5), 5, 31, 1, 2, 4, 8, 16);
         serving("w2,2,0;" + "o1;".repeat(4) + "n1,5;".repeat(5), 4, 15, 1, 2, 4, 8, 0);
         serving("w5,2,0;" + "o1;".repeat(10) + "n2,2;".repeat(5), 5, 31, 3, 12, 96, 384, 16 | 512);
+        // What pays as much, but does not hang together, is no PIECE.
+        serving("w3,1,0;o1;o5;o1;n2,2;", 0, 0, 0);
+        serving("w2,2,0;o1;o5;o5;o1;n2,2;n2,2;n10,10;", 0, 0, 0, 0, 0);
         says("CUSTOMERS who are not SERVED, each by a PIECE of THE SHEET, no CELL of two (all at once, TEARS aside)");
         StampSheets x = open("w3,1,0;o1;o2;o1;n1,1;n2,2;n1,1;n3,4;");
         due("three", x.serving(-2), 7);
@@ -436,6 +441,9 @@ final class ForetoldEdges extends Edges {
         says("COUPLES. STATE: no SHEET.");
         spoil(apart, 0, 2, 3, 4);
         due("there are none", apart.couples(), 1);
+        StampSheets one = open("w1,1,0;o1;n1,1;");
+        one.serving(-1);
+        due("one, whatever was asked ahead", one.couples(), 0);
         due("no sheet", new StampSheets().couples(), STATE);
     }
 
@@ -456,6 +464,12 @@ final class ForetoldEdges extends Edges {
         parting(four, 0, 3, 2, 1);
         parting(four, 3, 0, 2, 8);
         parting(four, 2, 1, 2, 4);
+        StampSheets ten = open("w5,2,0;" + "o1;".repeat(10));
+        parting(ten, 0, 9, 2, 1);
+        parting(ten, 2, 7, 3, 4);
+        parting(ten, 7, 2, 3, 128);
+        parting(ten, 1, 2, 2, 0b00011_00011);
+        parting(ten, 9, 8, 2, 512);
         StampSheets x = open(NINE);
         parting(x, 4, 0, 2, 510);
         parting(x, 0, 4, 2, 1);
@@ -515,6 +529,9 @@ final class ForetoldEdges extends Edges {
         way(x, 2, 6, 4, 1);
         way(x, 6, 2, 4, 3);
         way(x, 1, 7, 2, 4);
+        way(x, 8, 4, 2, 5);
+        way(x, 6, 4, 2, 3);
+        way(x, 7, 4, 1, 4);
         x.spoil(4);
         way(x, 1, 7, 4, 0);
         way(x, 5, 3, 4, 2);

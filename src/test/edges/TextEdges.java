@@ -23,6 +23,7 @@ final class TextEdges extends Edges {
         endOfText();
         allStays();
         inPlaceOfTheOneBefore();
+        anotherForm();
         latestFault();
     }
 
@@ -344,6 +345,8 @@ final class TextEdges extends Edges {
         x.spoil(8);
         x.over(9);
         x.value(1, 9);
+        // Days that are foretold leave nothing for the next sheet, either.
+        x.drawn(60, 5, 0);
         due("sheet()", read(x, "w2,2,3;u4;a5;e1;o9;n7,8;n0,99;"), 4);
         int[] counts = {0, 4, 2, 4, 0, 0, 0, 0};
         for (int what = 0; what < 8; what++) {
@@ -374,6 +377,27 @@ final class TextEdges extends Edges {
         due("a smaller one", x.pieces(1, 0), 3);
         due("no customers", x.count(2), 0);
         due("its kinds", x.piece(3, 0), 3);
+    }
+
+    /** What was found for one form must not be taken for another. */
+    private static void anotherForm() {
+        says("A SHEET that is read stands in place of the one before (none at first)");
+        StampSheets x = open("w6,1,0;o1;o2;o2;o1;o1;o1;n4,4;n0,99;");
+        due("1 and 2 hang together", x.serving(0), 6);
+        due("pieces", x.pieces(1, 0), 21);
+        due("thrift", x.thrift(0, 0), 6);
+        due("sheet()", read(x, "w2,3,0;o1;o2;o2;o0;o0;o9;n4,4;n0,99;"), 6);
+        due("1 and 2 do not any more", x.piece(6, 0), BAD);
+        due("1, 3 and 2 do", x.serving(0), 14);
+        due("thrift", x.thrift(0, 0), 14);
+        due("pieces", x.pieces(1, 0), 40);
+        due("sheet()", read(x, "w2,1,0;o4;o4;n4,4;n8,8;"), 2);
+        due("pieces", x.pieces(1, 0), 3);
+        due("ways", x.ways(1), 1);
+        due("serving", x.serving(-2), 1);
+        due("couples", x.couples(), 1);
+        due("parting", x.parting(0, 1, 1), 1);
+        due("sums", x.sums(2), 8);
     }
 
     private static void latestFault() {
